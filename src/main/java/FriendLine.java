@@ -1516,7 +1516,7 @@ public final class FriendLine {
         private final int[] talkedMinutes;
         private final int[] known;
         private final int[] firsts;
-        private final boolean[] isAsked;
+        private final int[] inLine;
         private final int[] facts;
         private Rules rules;
         private int night;
@@ -1532,7 +1532,7 @@ public final class FriendLine {
             talkedMinutes = new int[Team.MOST];
             known = new int[CALLERS];
             firsts = new int[CallBook.MOST_A_NIGHT];
-            isAsked = new boolean[CallBook.MOST_A_NIGHT];
+            inLine = new int[CallBook.MOST_A_NIGHT];
             facts = new int[Rules.FACTS];
             night = 0;
             taken = 0;
@@ -1595,33 +1595,44 @@ public final class FriendLine {
             }
         }
 
-        private void giveCalls(int minute, int waiting) {
-            for (int round = 0; round < waiting; round++) {
-                int call = nextInLine();
-                int v = volunteerFor(call, minute);
-                if (v != NONE) {
-                    book.give(call, v, minute);
-                    current[v] = call;
-                    taken++;
-                }
-            }
-        }
-
-        /** Finds the FIRST of each call that waits; how many there are. */
+        /** Lines up the calls that wait, the one with the greatest FIRST ahead; how many there are. */
         private int lineUp(int minute) {
             int waiting = 0;
-            for (int i = 0; i < CallBook.MOST_A_NIGHT; i++) {
-                int call = book.nightStart() + i;
-                boolean isWaiting = book.isWaiting(call, minute);
-                isAsked[i] = !isWaiting;
-                if (isWaiting) {
+            for (int call = book.nightStart(); call < book.size(); call++) {
+                if (book.isWaiting(call, minute)) {
                     setFacts(call, minute, minute, 0);
                     int rule = rules.firstHolding(TokenScanner.FIRST, facts);
-                    firsts[i] = rule == NONE ? book.needOf(call) : rules.termOf(rule, facts);
+                    putInLine(call, rule == NONE ? book.needOf(call) : rules.termOf(rule, facts), waiting);
                     waiting++;
                 }
             }
             return waiting;
+        }
+
+        /** Calls come by their numbers, so that one goes behind those of the same FIRST. */
+        private void putInLine(int call, int first, int waiting) {
+            if (waiting < 0 || waiting >= CallBook.MOST_A_NIGHT) {
+                return;
+            }
+            int at = waiting;
+            for (int i = waiting - 1; i >= 0 && firsts[i] < first; i--) {
+                firsts[i + 1] = firsts[i];
+                inLine[i + 1] = inLine[i];
+                at = i;
+            }
+            firsts[at] = first;
+            inLine[at] = call;
+        }
+
+        private void giveCalls(int minute, int waiting) {
+            for (int i = 0; i < waiting && i < CallBook.MOST_A_NIGHT; i++) {
+                int v = volunteerFor(inLine[i], minute);
+                if (v != NONE) {
+                    book.give(inLine[i], v, minute);
+                    current[v] = inLine[i];
+                    taken++;
+                }
+            }
         }
 
         private boolean isAnyFree(int minute) {
@@ -1631,20 +1642,6 @@ public final class FriendLine {
                 }
             }
             return false;
-        }
-
-        private int nextInLine() {
-            int ahead = NONE;
-            for (int i = 0; i < CallBook.MOST_A_NIGHT; i++) {
-                if (!isAsked[i] && (ahead == NONE || firsts[i] > firsts[ahead])) {
-                    ahead = i;
-                }
-            }
-            if (ahead == NONE) {
-                return NONE;
-            }
-            isAsked[ahead] = true;
-            return book.nightStart() + ahead;
         }
 
         private int volunteerFor(int call, int minute) {
