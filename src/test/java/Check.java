@@ -1,14 +1,20 @@
 /** What all tests use: comparing answers, and putting a text on the tape. */
 final class Check {
     private static int wrong = 0;
+    private static String sentence = "";
 
     private Check() {
+    }
+
+    /** What is compared from here on stands for these words of the document. */
+    static void about(String words) {
+        sentence = "'" + words + "': ";
     }
 
     static void same(String what, long got, long want) {
         if (got != want) {
             wrong++;
-            System.out.println(what + " answered " + got + ", due is " + want);
+            System.out.println(sentence + what + " answered " + got + ", due is " + want);
         }
     }
 
