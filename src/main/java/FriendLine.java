@@ -931,7 +931,7 @@ public final class FriendLine {
                 if (kind == TokenScanner.NUMBER && high < STACK) {
                     stack[high] = value;
                     high++;
-                } else if (kind == TokenScanner.FACT && high < STACK && value < facts.length) {
+                } else if (kind == TokenScanner.FACT && high < STACK && value >= 0 && value < facts.length) {
                     stack[high] = facts[value];
                     high++;
                 } else if (high >= 2) {

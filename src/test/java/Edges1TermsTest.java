@@ -135,7 +135,7 @@ final class Edges1TermsTest {
     }
 
     private static void eightSteps() {
-        Check.about("STEPS of training, 8 at most: each behind another one, or none; it LASTS so many NIGHTS (1 .. 200)");
+        Check.about("STEPS of training, 8 at most: each behind another one, or none; it LASTS .. (1 .. 200)");
         FriendLine x = new FriendLine();
         x.volunteer(0);
         for (int step = 0; step <= 8; step++) {

@@ -1,3 +1,4 @@
+import java.util.ArrayList;
 import java.util.Arrays;
 import java.util.List;
 
@@ -16,7 +17,8 @@ final class Edges2RulesTest {
     private static final String[] BEHIND_RIGHT = {"+", "-", "*", "and", ";"};
     /** 2 ** 31, which wraps to the least int of all. */
     private static final String LEAST = "4096*4096*128";
-
+    /** 383: six parentheses within one another, and a sum and a product at each of the seven levels. */
+    private static final String DEEP = "1+2*(1+2*(1+2*(1+2*(1+2*(1+2*(1+2*2))))))";
     /** 399 tokens, behind which a semicolon is the last one for which there is room. */
     private static final String NEARLY_FULL = "first 1;first 1" + "+1".repeat(197);
 
@@ -27,6 +29,7 @@ final class Edges2RulesTest {
         letters();
         digits();
         wordsOfEightLetters();
+        wordsLetterByLetter();
         signsTheLongestThatCanBe();
         tokensWithoutBlanks();
         whatGoesOn();
@@ -40,6 +43,7 @@ final class Edges2RulesTest {
         leastFaultOfOnePlace();
         wrongOnlyWithoutOthers();
         faultChangesNothing();
+        readAgainAndAgain();
         relations();
         joinedRelations();
         orderOfWork();
@@ -51,6 +55,7 @@ final class Edges2RulesTest {
         hour();
         hourOfTheEnd();
         known();
+        knownNightByNight();
         talkedOfWhom();
         Check.end();
     }
@@ -150,6 +155,41 @@ final class Edges2RulesTest {
         Check.faulty("first needneedneed;", 1, 6);
         Check.faulty("firstfirst 1;", 1, 0);
         Check.faulty("first 1 ifif;", 1, 8);
+    }
+
+    private static void wordsLetterByLetter() {
+        Check.about("VAR: 'need' | 'topic' | 'waited' | 'hour' | 'known' | 'talked', and the words of RULE and COND");
+        for (String word : new String[] {"need", "topic", "waited", "hour", "known", "talked"}) {
+            for (String other : nearly(word)) {
+                Check.faulty("first " + other + ";", 1, 6);
+            }
+        }
+        for (String word : RULE) {
+            for (String other : nearly(word)) {
+                Check.faulty(other + " 1 if 1==1;", 1, 0);
+            }
+        }
+        for (String other : nearly("if")) {
+            Check.faulty("first 1 " + other + " 1==1;", 1, 8);
+        }
+        for (String other : nearly("and")) {
+            Check.faulty("drop if 1==1 " + other + " 1==1;", 1, 13);
+        }
+    }
+
+    /** A word with one letter changed, missing at its end or its beginning, or too many. */
+    private static List<String> nearly(String word) {
+        List<String> all = new ArrayList<>();
+        for (int i = 0; i < word.length(); i++) {
+            all.add(word.substring(0, i) + 'x' + word.substring(i + 1));
+            all.add(word.substring(0, i) + Character.toUpperCase(word.charAt(i)) + word.substring(i + 1));
+        }
+        all.add(word.substring(1));
+        all.add(word.substring(0, word.length() - 1));
+        all.add(word + 's');
+        all.add('s' + word);
+        all.add(word + word);
+        return all;
     }
 
     private static void signsTheLongestThatCanBe() {
@@ -300,15 +340,15 @@ final class Edges2RulesTest {
 
     private static void deepestTerms() {
         Check.about("a 7th ( within one another: six are worked out");
-        String deep = "1+1*(1+1*(1+1*(1+1*(1+1*(1+1*(1+1*2))))))";
-        String other = deep.replace('2', '3');
-        holds(deep + "==9");
-        holds("9==" + deep);
+        String deep = DEEP;
+        String other = DEEP.replace("2*2", "2*3");
+        holds(deep + "==383");
+        holds("383==" + deep);
         holds("2-(3-(4-(5-(6-(7-8*2)))))==13");
         holds("1==1 and " + deep + "==" + deep);
         holdsNot("1==1 and " + deep + "==" + other);
         holdsNot(other + "==" + deep);
-        holds(deep + "+1==" + other);
+        holds(deep + "+128==" + other);
     }
 
     private static void wrongNumbers() {
@@ -405,6 +445,26 @@ final class Edges2RulesTest {
         y.call(0, 0, 2, 0, 1);
         y.go();
         Lines.left(y, 3);
+    }
+
+    private static void readAgainAndAgain() {
+        Check.about("else it is in place of the one ahead: again and again");
+        FriendLine x = new FriendLine();
+        for (int i = 0; i < 4; i++) {
+            Check.fine(x, NEARLY_FULL + ";");
+            Check.same("a fault", Check.read(x, "first 1+1*(1+1*(1+1*(1+1*(1+1*(1+1*(1+1*("), 2);
+            Check.same("a fault", Check.read(x, "drop if 1==1 and 1+"), 1);
+            Check.fine(x, times(20, "drop if 1==2;"));
+        }
+        Check.fine(x, "drop if " + DEEP + "==383 and topic==3; drop if 1==1 and need==4;");
+        Check.same("count(8)", x.count(8), 2);
+        x.call(0, 0, 4, 0, 1);
+        x.call(0, 0, 0, 3, 1);
+        x.call(0, 0, 0, 0, 1);
+        x.go();
+        Lines.dropped(x, 0, 0);
+        Lines.dropped(x, 1, 0);
+        Lines.left(x, 2);
     }
 
     private static void holds(String condition) {
@@ -630,8 +690,22 @@ final class Edges2RulesTest {
         }
     }
 
+    private static void knownNightByNight() {
+        Check.about("how many calls of its CALLER were taken in NIGHTS ahead: of all of them, not of this one");
+        FriendLine x = Lines.team(2);
+        for (int night = 0; night < 5; night++) {
+            x.clock(night);
+            Lines.open(x, 1);
+            Check.fine(x, "drop if known!=" + night + " and topic==0; drop if known!=" + 2 * night + " and topic==1;");
+            x.call(0, 0, 0, 0, 1);
+            x.call(1, 19, 0, 1, 1);
+            x.call(2, 19, 0, 1, 1);
+            Check.same("go() in " + night, x.go(), 3);
+        }
+    }
+
     private static void talkedOfWhom() {
-        Check.about("talked: MINUTES that the VOLUNTEER asked for (in rest, in step) talked in this NIGHT so far, else 0");
+        Check.about("talked: MINUTES that the VOLUNTEER asked for (in rest, in step) talked .. so far, else 0");
         FriendLine x = Lines.team(2);
         Lines.openForOne(x, 7, 0);
         Check.fine(x, "drop if talked!=0; first 0-need if talked!=0; rest 10 if talked==5; rest 20 if talked==11;"

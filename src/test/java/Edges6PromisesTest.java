@@ -630,7 +630,7 @@ final class Edges6PromisesTest {
     }
 
     private static void see() {
-        Check.about("24: 1 if a VOLUNTEER may SEE a NOTE in a NIGHT, by what is told so far, else 0; NONE: no such ones");
+        Check.about("24: 1 if a VOLUNTEER may SEE a NOTE in a NIGHT .. else 0; NONE: no such ones");
         for (int v : new int[] {-1, -2, 3, 8, Integer.MIN_VALUE, Integer.MAX_VALUE}) {
             Twins.refused("see(" + v + ", 0, 0)", Edges6PromisesTest::busy, x -> x.see(v, 0, 0));
         }
