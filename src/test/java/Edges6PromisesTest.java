@@ -536,7 +536,9 @@ final class Edges6PromisesTest {
         Check.about("19: its number, from 0 on over all NIGHTS. NONE ..: 400 in all");
         FriendLine x = new FriendLine();
         for (int i = 0; i < 390; i++) {
-            x.clock(i / 39);
+            if (i % 39 == 0) {
+                x.clock(i / 39);
+            }
             Check.same("call " + i, x.call(i % 39, i % 20, 0, 0, 1), i);
         }
         x.clock(20);

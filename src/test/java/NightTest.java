@@ -94,7 +94,9 @@ final class NightTest {
     private static void fourHundredInAll() {
         FriendLine x = new FriendLine();
         for (int i = 0; i < 400; i++) {
-            x.clock(i / 40);
+            if (i % 40 == 0) {
+                x.clock(i / 40);
+            }
             Check.same("call " + i, x.call(0, 0, 0, 0, 1), i);
         }
         x.clock(10);
