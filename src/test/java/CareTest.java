@@ -8,16 +8,6 @@ final class CareTest {
         Check.end();
     }
 
-    private static FriendLine pair() {
-        FriendLine x = new FriendLine();
-        x.volunteer(0);
-        x.volunteer(0);
-        x.step(-1, 200);
-        x.learn(0, 0);
-        x.learn(1, 0);
-        return x;
-    }
-
     private static void open(FriendLine x) {
         x.offer(0, 1, 1);
         x.offer(1, 1, 1);
@@ -25,7 +15,7 @@ final class CareTest {
     }
 
     private static void wrongOnes() {
-        FriendLine x = pair();
+        FriendLine x = Lines.team(2);
         Check.same("due(2)", x.due(2), -1);
         Check.same("due(-1)", x.due(-1), -1);
         Check.no("care(2)", x.care(2));
@@ -36,7 +26,7 @@ final class CareTest {
 
     private static void dueBehindHardCalls() {
         for (int need = 7; need <= 9; need++) {
-            FriendLine x = pair();
+            FriendLine x = Lines.team(2);
             open(x);
             x.call(0, 0, need, 0, 5);
             Check.same("go()", x.go(), 1);
@@ -49,7 +39,7 @@ final class CareTest {
     }
 
     private static void careCoversNightsAheadAlone() {
-        FriendLine x = pair();
+        FriendLine x = Lines.team(2);
         open(x);
         x.call(0, 0, 9, 0, 5);
         x.go();
@@ -70,7 +60,7 @@ final class CareTest {
     }
 
     private static void dueHoldsUntilGiven() {
-        FriendLine x = pair();
+        FriendLine x = Lines.team(2);
         open(x);
         x.call(0, 0, 9, 0, 5);
         x.go();

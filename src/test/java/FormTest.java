@@ -25,19 +25,23 @@ final class FormTest {
     private static final String FORBIDDEN = "\\b(throw|throws|try|catch|synchronized|assert|import|package|native|"
             + "volatile|Object|Random|Thread)\\b|->|::|\\bSystem\\.(?!arraycopy)|Exact\\(";
 
+    // A method of the class, or of one inside it; a constructor has no type ahead of its name.
+    private static final Pattern METHOD = Pattern.compile(
+            "(?ms)^( {4}| {8})(?:(?:public|private|static) )*([\\w\\[\\]]+ )?(\\w+)\\([^()]*\\) \\{$.*?^\\1\\}$");
+
     public static void main(String[] args) throws IOException {
         face();
         constructor();
         fields();
         nested();
         source();
+        methods();
         Check.end();
     }
 
     private static void face() {
         Set<String> shown = new TreeSet<>();
-        Set<String> names = new HashSet<>();
-        FACE.forEach(m -> names.add(m.substring(m.indexOf(' ') + 1, m.indexOf('('))));
+        Set<String> names = publicNames();
         for (Method m : FriendLine.class.getDeclaredMethods()) {
             if (Modifier.isPrivate(m.getModifiers())) {
                 Check.no("private " + m.getName() + " bears a public name", names.contains(m.getName()));
@@ -50,6 +54,12 @@ final class FormTest {
         Check.yes("the face is " + shown, shown.equals(FACE));
         Check.yes("public and final", Modifier.isPublic(FriendLine.class.getModifiers())
                 && Modifier.isFinal(FriendLine.class.getModifiers()));
+    }
+
+    private static Set<String> publicNames() {
+        Set<String> names = new HashSet<>();
+        FACE.forEach(m -> names.add(m.substring(m.indexOf(' ') + 1, m.indexOf('('))));
+        return names;
     }
 
     private static void constructor() {
@@ -80,6 +90,8 @@ final class FormTest {
             Check.yes(c + " has twenty fields at most", fields <= 20);
             for (Method m : c.getDeclaredMethods()) {
                 Check.yes(m + " takes seven parameters at most", m.getParameterCount() <= 7);
+                boolean isPrivate = Modifier.isPrivate(m.getModifiers());
+                Check.no(m + " bears a public name", isPrivate && publicNames().contains(m.getName()));
             }
         }
     }
@@ -91,5 +103,20 @@ final class FormTest {
         while (m.find()) {
             Check.no("'" + m.group() + "' in the source", true);
         }
+    }
+    private static void methods() throws IOException {
+        Matcher m = METHOD.matcher(Files.readString(Path.of("src/main/java/FriendLine.java")));
+        int found = 0;
+        while (m.find()) {
+            found++;
+            boolean isConstructor = m.group(2) == null;
+            Check.yes(m.group(3) + " has sixty lines at most", m.group().lines().count() <= 60);
+            Check.yes(m.group(3) + " makes no object", isConstructor || !m.group().contains(" new "));
+        }
+        int declared = FriendLine.class.getDeclaredMethods().length + 1;
+        for (Class<?> c : FriendLine.class.getDeclaredClasses()) {
+            declared += c.getDeclaredMethods().length + c.getDeclaredConstructors().length;
+        }
+        Check.same("methods found in the source", found, declared);
     }
 }

@@ -17,6 +17,19 @@ final class Lines {
         return x;
     }
 
+    /** So many volunteers of rank 0; those of these bits have step 0 in nights 0 to 9. */
+    static FriendLine skilled(int volunteers, int bits) {
+        FriendLine x = new FriendLine();
+        x.step(FriendLine.NONE, 10);
+        for (int v = 0; v < volunteers; v++) {
+            x.volunteer(0);
+            if ((bits >> v & 1) != 0) {
+                x.learn(v, 0);
+            }
+        }
+        return x;
+    }
+
     /** Volunteers 0 and 1 are there in these hours, one behind the other, of the clock's night. */
     static void open(FriendLine x, int hours) {
         x.offer(0, hours, 3);

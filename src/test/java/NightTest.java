@@ -26,28 +26,9 @@ final class NightTest {
 
     /** Both are there in hours 0 to 2 of night 0; both have step 0. */
     private static FriendLine pair() {
-        FriendLine x = new FriendLine();
-        x.volunteer(0);
-        x.volunteer(0);
-        x.step(-1, 200);
-        x.learn(0, 0);
-        x.learn(1, 0);
-        open(x);
+        FriendLine x = Lines.team(2);
+        Lines.open(x, 7);
         return x;
-    }
-
-    private static void open(FriendLine x) {
-        x.offer(0, 7, 3);
-        x.offer(1, 7, 3);
-        Check.same("shifts()", x.shifts(), 3);
-    }
-
-    /** The call's state, volunteer, minute at which it was taken or dropped, and end. */
-    private static void told(FriendLine x, int call, int state, int v, int since, int end) {
-        Check.same("told(" + call + ", 1)", x.told(call, 1), state);
-        Check.same("told(" + call + ", 2)", x.told(call, 2), v);
-        Check.same("told(" + call + ", 3)", x.told(call, 3), since);
-        Check.same("told(" + call + ", 4)", x.told(call, 4), end);
     }
 
     private static void callsThatAreRefused() {
@@ -67,7 +48,7 @@ final class NightTest {
         Check.same("the most of all", x.call(359, 19, 9, 7, 90), 1);
         Check.same("told(1, 5)", x.told(1, 5), 19);
         Check.same("told(1, 0)", x.told(1, 0), 0);
-        told(x, 1, 0, -1, -1, -1);
+        Lines.told(x, 1, 0, -1, -1, -1);
         Check.same("told(1, 6)", x.told(1, 6), -1);
         Check.same("told(1, -1)", x.told(1, -1), -1);
         Check.same("told(2, 0)", x.told(2, 0), -1);
@@ -130,7 +111,7 @@ final class NightTest {
         x.offer(1, 63, 3);
         x.call(0, 0, 9, 0, 1);
         Check.same("go() without shifts", x.go(), 0);
-        told(x, 0, 3, -1, -1, -1);
+        Lines.told(x, 0, 3, -1, -1, -1);
     }
 
     private static void nobodyBehindTheShift() {
@@ -138,15 +119,15 @@ final class NightTest {
         x.call(179, 0, 1, 0, 1);
         x.call(180, 0, 1, 0, 1);
         Check.same("go()", x.go(), 1);
-        told(x, 0, 1, 0, 179, 180);
-        told(x, 1, 3, -1, -1, -1);
+        Lines.told(x, 0, 1, 0, 179, 180);
+        Lines.told(x, 1, 3, -1, -1, -1);
     }
 
     private static void talkingOnBehindTheShift() {
         FriendLine x = pair();
         x.call(170, 0, 1, 0, 50);
         Check.same("go()", x.go(), 1);
-        told(x, 0, 1, 0, 170, 220);
+        Lines.told(x, 0, 1, 0, 170, 220);
         Check.same("talked(0, 0)", x.talked(0, 0), 50);
     }
 
@@ -164,9 +145,9 @@ final class NightTest {
         x.call(359, 2, 1, 0, 5);
         x.call(350, 3, 1, 0, 10);
         Check.same("go()", x.go(), 2);
-        told(x, 0, 1, 1, 359, 449);
-        told(x, 1, 3, -1, -1, -1);
-        told(x, 3, 1, 0, 350, 360);
+        Lines.told(x, 0, 1, 1, 359, 449);
+        Lines.told(x, 1, 3, -1, -1, -1);
+        Lines.told(x, 3, 1, 0, 350, 360);
         Check.same("talked(0, 0)", x.talked(0, 0), 10);
         Check.same("talked(1, 0)", x.talked(1, 0), 90);
         x.clock(1);
@@ -179,9 +160,9 @@ final class NightTest {
         x.call(0, 1, 3, 0, 20);
         x.call(0, 2, 7, 0, 5);
         Check.same("go()", x.go(), 3);
-        told(x, 2, 1, 0, 0, 5);
-        told(x, 0, 1, 1, 0, 10);
-        told(x, 1, 1, 0, 5, 25);
+        Lines.told(x, 2, 1, 0, 0, 5);
+        Lines.told(x, 0, 1, 1, 0, 10);
+        Lines.told(x, 1, 1, 0, 5, 25);
     }
 
     private static void orderByFirstRules() {
@@ -191,9 +172,9 @@ final class NightTest {
         x.call(0, 1, 1, 0, 10);
         x.call(0, 2, 9, 2, 10);
         Check.same("go()", x.go(), 3);
-        told(x, 2, 1, 0, 0, 10);
-        told(x, 1, 1, 1, 0, 10);
-        told(x, 0, 1, 0, 10, 20);
+        Lines.told(x, 2, 1, 0, 0, 10);
+        Lines.told(x, 1, 1, 1, 0, 10);
+        Lines.told(x, 0, 1, 0, 10, 20);
     }
 
     private static void leastTalkedTakes() {
@@ -204,11 +185,11 @@ final class NightTest {
         x.call(40, 0, 1, 0, 4);
         x.call(50, 0, 1, 0, 4);
         Check.same("go()", x.go(), 5);
-        told(x, 0, 1, 0, 0, 10);
-        told(x, 1, 1, 1, 20, 24);
-        told(x, 2, 1, 1, 30, 34);
-        told(x, 3, 1, 1, 40, 44);
-        told(x, 4, 1, 0, 50, 54);
+        Lines.told(x, 0, 1, 0, 0, 10);
+        Lines.told(x, 1, 1, 1, 20, 24);
+        Lines.told(x, 2, 1, 1, 30, 34);
+        Lines.told(x, 3, 1, 1, 40, 44);
+        Lines.told(x, 4, 1, 0, 50, 54);
     }
 
     private static void barsHold() {
@@ -220,9 +201,9 @@ final class NightTest {
         x.call(1, 5, 1, 0, 10);
         x.call(0, 6, 9, 0, 10);
         Check.same("go()", x.go(), 2);
-        told(x, 0, 1, 1, 0, 10);
-        told(x, 1, 1, 1, 10, 20);
-        told(x, 2, 3, -1, -1, -1);
+        Lines.told(x, 0, 1, 1, 0, 10);
+        Lines.told(x, 1, 1, 1, 10, 20);
+        Lines.told(x, 2, 3, -1, -1, -1);
     }
 
     private static void stepRules() {
@@ -237,11 +218,11 @@ final class NightTest {
         x.call(2, 0, 1, 5, 10);
         x.call(2, 0, 1, 0, 10);
         Check.same("go()", x.go(), 3);
-        told(x, 0, 1, 1, 0, 10);
-        told(x, 1, 1, 1, 10, 20);
-        told(x, 2, 3, -1, -1, -1);
-        told(x, 3, 3, -1, -1, -1);
-        told(x, 4, 1, 0, 2, 12);
+        Lines.told(x, 0, 1, 1, 0, 10);
+        Lines.told(x, 1, 1, 1, 10, 20);
+        Lines.told(x, 2, 3, -1, -1, -1);
+        Lines.told(x, 3, 3, -1, -1, -1);
+        Lines.told(x, 4, 1, 0, 2, 12);
     }
 
     private static void stepRuleByTalked() {
@@ -252,8 +233,8 @@ final class NightTest {
         x.call(10, 0, 1, 0, 4);
         x.call(20, 0, 1, 0, 4);
         Check.same("go()", x.go(), 3);
-        told(x, 2, 1, 1, 10, 14);
-        told(x, 3, 3, -1, -1, -1);
+        Lines.told(x, 2, 1, 1, 10, 14);
+        Lines.told(x, 3, 3, -1, -1, -1);
     }
 
     private static void dropRules() {
@@ -265,9 +246,9 @@ final class NightTest {
         x.call(5, 0, 1, 6, 20);
         x.call(17, 0, 1, 0, 20);
         Check.same("go()", x.go(), 3);
-        told(x, 2, 2, -1, 9, -1);
-        told(x, 3, 2, -1, 5, -1);
-        told(x, 4, 1, 0, 20, 40);
+        Lines.told(x, 2, 2, -1, 9, -1);
+        Lines.told(x, 3, 2, -1, 5, -1);
+        Lines.told(x, 4, 1, 0, 20, 40);
     }
 
     private static void restRules() {
@@ -279,10 +260,10 @@ final class NightTest {
         x.call(2, 1, 4, 0, 15);
         x.call(3, 1, 3, 0, 1);
         Check.same("go()", x.go(), 4);
-        told(x, 0, 1, 0, 0, 5);
-        told(x, 1, 1, 0, 12, 22);
-        told(x, 2, 1, 0, 24, 39);
-        told(x, 3, 1, 0, 99, 100);
+        Lines.told(x, 0, 1, 0, 0, 5);
+        Lines.told(x, 1, 1, 0, 12, 22);
+        Lines.told(x, 2, 1, 0, 24, 39);
+        Lines.told(x, 3, 1, 0, 99, 100);
     }
 
     private static void knownCallers() {
@@ -292,13 +273,13 @@ final class NightTest {
         x.call(200, 3, 1, 0, 1);
         Check.same("go()", x.go(), 2);
         x.clock(1);
-        open(x);
+        Lines.open(x, 7);
         Check.fine(x, "drop if known==2; first known;");
         x.call(0, 3, 1, 0, 1);
         x.call(0, 4, 1, 0, 1);
         x.call(5, 4, 1, 0, 1);
         Check.same("go(): calls of this night are not known yet", x.go(), 2);
-        told(x, 3, 2, -1, 0, -1);
+        Lines.told(x, 3, 2, -1, 0, -1);
     }
 
     private static void arithmeticWraps() {
@@ -309,10 +290,10 @@ final class NightTest {
             x.call(0, 0, 1, topic, 1);
         }
         Check.same("go()", x.go(), 1);
-        told(x, 0, 2, -1, 0, -1);
-        told(x, 1, 2, -1, 0, -1);
-        told(x, 2, 1, 0, 0, 1);
-        told(x, 3, 2, -1, 0, -1);
+        Lines.told(x, 0, 2, -1, 0, -1);
+        Lines.told(x, 1, 2, -1, 0, -1);
+        Lines.told(x, 2, 1, 0, 0, 1);
+        Lines.told(x, 3, 2, -1, 0, -1);
     }
 
     private static void rulesOfThen() {
@@ -323,7 +304,7 @@ final class NightTest {
         Check.same("a fault", Check.read(x, "drop if 1==1; drop"), 1);
         Check.same("go()", x.go(), 1);
         Check.fine(x, "drop if 1==1;");
-        told(x, 0, 1, 0, 0, 1);
+        Lines.told(x, 0, 1, 0, 0, 1);
     }
 
     private static void counts() {

@@ -13,20 +13,8 @@ final class ShiftsTest {
         Check.end();
     }
 
-    private static FriendLine line(int volunteers, int skilledBits) {
-        FriendLine x = new FriendLine();
-        x.step(-1, 10);
-        for (int v = 0; v < volunteers; v++) {
-            x.volunteer(0);
-            if ((skilledBits >> v & 1) != 0) {
-                x.learn(v, 0);
-            }
-        }
-        return x;
-    }
-
     private static void offersThatAreRefused() {
-        FriendLine x = line(7, 1);
+        FriendLine x = Lines.skilled(7, 1);
         Check.same("offer(-1, 1, 1)", x.offer(-1, 1, 1), -1);
         Check.same("offer(7, 1, 1)", x.offer(7, 1, 1), -1);
         Check.same("offer(0, 0, 1)", x.offer(0, 0, 1), -1);
@@ -42,7 +30,7 @@ final class ShiftsTest {
     }
 
     private static void offersOfOneNight() {
-        FriendLine x = line(2, 3);
+        FriendLine x = Lines.skilled(2, 3);
         x.offer(0, 1, 1);
         x.clock(0);
         Check.same("it has one, the clock stood", x.offer(0, 1, 1), -1);
@@ -62,7 +50,7 @@ final class ShiftsTest {
     }
 
     private static void shiftsOnce() {
-        FriendLine x = line(2, 3);
+        FriendLine x = Lines.skilled(2, 3);
         Check.same("shifts() of no offer", x.shifts(), 0);
         Check.same("shifts() again", x.shifts(), -1);
         Check.same("offer behind shifts()", x.offer(0, 1, 1), -1);
@@ -77,7 +65,7 @@ final class ShiftsTest {
     }
 
     private static void fewestHoursAndTies() {
-        FriendLine x = line(3, 1);
+        FriendLine x = Lines.skilled(3, 1);
         x.offer(0, 63, 1);
         x.offer(1, 63, 3);
         x.offer(2, 63, 3);
@@ -89,7 +77,7 @@ final class ShiftsTest {
     }
 
     private static void unkeptHourBetween() {
-        FriendLine x = line(3, 1);
+        FriendLine x = Lines.skilled(3, 1);
         x.offer(0, 7, 3);
         x.offer(1, 1, 1);
         x.offer(2, 4, 1);
@@ -107,7 +95,7 @@ final class ShiftsTest {
     }
 
     private static void skillByNight() {
-        FriendLine x = line(2, 1);
+        FriendLine x = Lines.skilled(2, 1);
         x.clock(9);
         x.offer(0, 1, 1);
         x.offer(1, 1, 1);
@@ -131,7 +119,7 @@ final class ShiftsTest {
         for (int round = 0; round < 400; round++) {
             int size = random.nextInt(6);
             int skilled = random.nextInt(32);
-            FriendLine x = line(5, skilled);
+            FriendLine x = Lines.skilled(5, skilled);
             int[] hours = new int[size];
             int[] mosts = new int[size];
             StringBuilder told = new StringBuilder("skilled ").append(skilled).append(", offers");
